@@ -53,6 +53,7 @@ public final class PromisesTest {
 
   public static void main(String[] args) {
     newObject();
+    fullTown();
     tape();
     towns();
     faults();
@@ -117,6 +118,11 @@ public final class PromisesTest {
     due(3, "end(1380)", x.end(1380), 1380);
     due(2, "feed to 1400", x.feed(0, 0, 0, 0, 0), 1400);
     due(3, "end(0)", x.end(0), 0);
+    due(4, "a full tape of blanks", tell(x, " ".repeat(1400)), 0);
+    due(4, "a full tape to the last byte", tell(x, " ".repeat(1380) + BARE), 1);
+    due(4, "a full tape that ends too soon", tell(x, " ".repeat(1381) + BARE.substring(0, 19)), -4);
+    due(5, "its place", x.fault(1), 1400);
+    due(3, "end(0)", x.end(0), 0);
     due(3, "end(0) again", x.end(0), 0);
     due(2, "feed", x.feed(-1, -1, -1, -1, -1), 20);
   }
@@ -136,7 +142,7 @@ public final class PromisesTest {
     due(4, "RING again", tell(x, RING), RING_LINES);
     due(4, "says as at first", x.note(0, 2), 0);
     due(4, "blanks", tell(x, " \n "), 0);
-    due(4, "empty then", x.count(8), 0);
+    for (int what = 0; what < 9; what++) due(4, "count(" + what + ") without a town", x.count(what), 0);
     noTown(x, 4);
     due(4, "nothing", x.town(), 0);
     due(4, "tokens without blanks, zeros ahead", tell(x, "\n town opens00000000000020odds 0100 ;book\npages1by4;note0to0 29denies;fact0;dead4;"), 5);
@@ -154,6 +160,63 @@ public final class PromisesTest {
     due(5, "town() of " + text, tell(x, text), -4);
     due(5, "the fault of " + text, x.fault(0), code);
     due(5, "the fault's place of " + text, x.fault(1), place);
+  }
+
+  /** As much of all as there can be: 12 pages on one ring in 5 books, two notes each. */
+  private static void fullTown() {
+    StringBuilder s = new StringBuilder("town opens 20 odds 100;book pages 8 by 0;");
+    for (int b = 1; b < 5; b++) s.append("book pages 1 by ").append(b).append(";");
+    for (int n = 0; n < 24; n++) {
+      int to = (n / 2 + 1) % 12;
+      s.append("note ").append(n / 2).append(" to ").append(Math.max(0, to - 7)).append(" ").append(to < 8 ? to : 0).append(";");
+    }
+    FootNotes x = of(s + "fact 11;dead 0;dead 1;dead 2;dead 3;dead 4;");
+    int all = (1 << 12) - 1;
+    for (int p = 0; p < 12; p++) {
+      due(10, "leads", x.leads(2 * p + 1), (p + 1) % 12);
+      due(18, "reach", x.reach(p), all);
+      due(19, "upon", x.upon(p), all);
+      due(21, "round", x.round(p), 12);
+      due(22, "ring", x.ring(p), all);
+      due(23, "way", x.way(p), 11 - p);
+      due(24, "step", x.step(0, p), p);
+      due(25, "depth", x.depth(p), 12);
+      due(28, "needs", x.needs(p), all & -(1 << p));
+      due(29, "loss", x.loss(p), p);
+      due(32, "torn", x.torn(p), p == 11 ? -1 : 1 << p + 1);
+      due(40, "leaves", x.leaves(11, p), p == 11 ? 0 : p + 1);
+      due(48, "worth", x.worth(p, 40), 1000);
+      due(59, "years", x.years(9, 20, p), p == 11 ? 20 : 0);
+    }
+    due(12, "astray()", x.astray(), 0);
+    due(20, "rings()", x.rings(), all);
+    due(27, "grounded()", x.grounded(), all);
+    due(30, "key()", x.key(), 11);
+    due(33, "holds", x.holds(all), 1);
+    due(34, "ways()", x.ways(), 1);
+    due(37, "sure(0)", x.sure(0), all);
+    due(37, "sure(1)", x.sure(1), 0);
+    due(38, "loose(0)", x.loose(0), 0);
+    due(39, "loosely(0)", x.loosely(0), all);
+    row(x, 0, 0, 8, 7, 6, 5, 4, 3, 2, 1);
+    due(41, "reads", x.reads(0, 0), 8);
+    for (int i = 0; i < 8; i++) due(42, "order", x.order(0, 0, i), i + 1);
+    due(43, "shares", x.shares(0, 0), 8);
+    due(44, "first", x.first(0, 0), 0);
+    due(45, "sends()", x.sends(), 2);
+    due(46, "orders()", x.orders(), 5);
+    for (int i = 0; i < 5; i++) due(47, "earliest", x.earliest(i), (5 - i) % 5);
+    due(49, "rest()", x.rest(), 1);
+    due(50, "saint(40)", x.saint(40), 0);
+    due(51, "meets(0, 6)", x.meets(0, 6), all);
+    due(52, "nearest(0, 6)", x.nearest(0, 6), 6);
+    due(53, "third(6, 0)", x.third(6, 0), 0);
+    due(54, "cited(0)", x.cited(0), 16);
+    due(54, "cited(4)", x.cited(4), 2);
+    due(55, "famous(1)", x.famous(1), 0);
+    due(56, "quotes(4, 0)", x.quotes(4, 0), 2);
+    due(57, "drawn(9)", x.drawn(9), (1 << 24) - 1);
+    due(58, "shaken(9)", x.shaken(9), 1);
   }
 
   private static void faults() {
@@ -198,6 +261,8 @@ public final class PromisesTest {
     fault("book pages 1 by 0;", 1, 0);
     fault(" Town opens 1 odds 0;", 1, 1);
     fault("towns opens 1 odds 0;", 1, 0);
+    fault("townz opens 1 odds 0;", 1, 0);
+    fault("xown opens 1 odds 0;", 1, 0);
     fault("town opens 1", 1, 12);
     fault("town opens 1 \n", 1, 14);
     fault("town opens 1;", 1, 12);
@@ -289,6 +354,10 @@ public final class PromisesTest {
     due(12, "astray() to one while to none", x.astray(), 1 + 2 + 4 + 8 + 64 + 128);
     x.anew();
     due(12, "astray()", x.astray(), 0);
+    FootNotes y = of(BARE + "book pages 2 by 0;book pages 1 by 0;note 0 to 0 2;note 0 to 0 1;");
+    due(10, "leads(0) just beyond", y.leads(0), -1);
+    due(11, "meant(0) just beyond", y.meant(0), -1);
+    due(11, "meant(1) the last", y.meant(1), 1);
   }
 
   private static void acts() {
@@ -412,6 +481,7 @@ public final class PromisesTest {
     due(19, "upon(0) torn out", x.upon(0), 0);
     due(20, "rings()", x.rings(), 32);
     due(26, "deepest() now", x.deepest(), 3);
+    due(26, "deepest() by 1", of(BARE + "book pages 2 by 0;note 1 to 0 0;").deepest(), 1);
     due(26, "deepest() of none", of(BOOK).deepest(), -1);
     due(26, "deepest() without pages", of(BARE).deepest(), -1);
     due(20, "rings() without pages", of(BARE).rings(), 0);
@@ -453,6 +523,7 @@ public final class PromisesTest {
     due(28, "needs(0) ungrounded", x.needs(0), 0);
     due(29, "loss(6) torn out", x.loss(6), 0);
     due(30, "key() of none", x.key(), -1);
+    due(30, "key() by 1", of(BARE + "book pages 2 by 0;note 1 to 0 0;fact 0;").key(), 0);
     due(30, "key() without pages", of(BARE).key(), -1);
     // 1 and 2 both lean on both facts, 4 leans on 3 alone, 3 on 1 alone
     FootNotes y = of(BARE + "book pages 7 by 0;note 1 to 0 0;note 1 to 0 6;note 2 to 0 6;note 2 to 0 0;note 3 to 0 1;note 4 to 0 3;fact 0;fact 6;");
@@ -470,6 +541,7 @@ public final class PromisesTest {
     x.tear(2, 1);
     due(31, "cut(6), a fact, torn out", x.cut(6), -1);
     due(32, "torn(6), a fact, torn out", x.torn(6), -1);
+    due(31, "cut(0) without a way, another fact", of(BARE + "book pages 3 by 0;note 0 to 0 1;fact 2;").cut(0), 0);
     due(31, "cut(0) without a way", x.cut(0), 0);
     due(32, "torn(0) without a way", x.torn(0), 0);
     // 5 leads to 1, 2, 3; these to the facts 0 and 4
@@ -551,8 +623,20 @@ public final class PromisesTest {
     due(40, "leaves(4, 2) by a note", x.leaves(4, 2), 2);
     due(40, "leaves(6, 1), a torn leaf opened", x.leaves(6, 1), 4);
     due(40, "leaves(2, 1)", x.leaves(2, 1), 1);
+    wideBooks();
     // opening one's own book again is shorter than leafing back
     due(40, "leaves(8, 0)", of(BARE + "book pages 9 by 0;").leaves(8, 0), 1);
+  }
+
+  /** 30 leaves and 12: the pages stand on the last ones, and no leaf is beside one of another book. */
+  private static void wideBooks() {
+    FootNotes x = of("town opens 20 odds 0;book pages 1 by 0;book pages 1 by 1;");
+    for (int i = 0; i < 29; i++) x.edition(0, 0);
+    due(40, "leaves(0, 1) of another book", x.leaves(0, 1), 20);
+    due(40, "leaves(1, 0) by 29 leaves", x.leaves(1, 0), 49);
+    for (int i = 0; i < 11; i++) x.edition(1, 0);
+    due(40, "leaves(0, 1) by 11 leaves", x.leaves(0, 1), 31);
+    due(40, "leaves(1, 0) by 29 leaves", x.leaves(1, 0), 49);
   }
 
   private static void reading() {
@@ -621,6 +705,12 @@ public final class PromisesTest {
     tripsAnswer("the first one torn out alone", x, 3, 1, -1);
     tripsAnswer("one torn out, a number is none", x, 0, 0, -2);
     tripsAnswer("one torn out, more than eight asked last", x, 1, 0, -1);
+    x.row(1, 0, 60);
+    tripsAnswer("sixty", x, 1, 0, -2);
+    x.anew();
+    x.tear(0, 0);
+    row(x, 2, 0, 1);
+    due(41, "reads of a row without what is torn out", x.reads(2, 1), 0);
   }
 
   private static void sending() {
@@ -674,6 +764,9 @@ public final class PromisesTest {
     z.tear(0, 2);
     due(49, "rest() of the first", z.rest(), 1);
     due(48, "worth(2, 40) torn out", z.worth(2, 40), 1000);
+    String half = BARE + "book pages 2 by 0;" + "note 0 to 0 0;".repeat(16) + "note 0 to 0 1;note 0 to 0 1;";
+    due(49, "rest() of the 40th", of(half).rest(), 40);
+    due(49, "rest() of the 41st or later", of(half.replaceFirst("note 0 to 0 1;", "note 0 to 0 0;")).rest(), -1);
     FootNotes w = of(BARE);
     due(49, "rest() without pages", w.rest(), 1);
     due(50, "saint(3) without pages", w.saint(3), -1);
@@ -806,6 +899,12 @@ public final class PromisesTest {
     due(62, "acts", x.count(6), 2);
     due(62, "back(2)", x.back(2), 0);
     noTown(x, 62);
+    tell(x, RING);
+    x.tear(2, 1);
+    x.image(1);
+    x.anew();
+    x.back(1);
+    due(62, "leaf(2, 1)", x.leaf(2, 1), -4);
   }
 
   private static void slots() {
