@@ -1,5 +1,3 @@
-import java.nio.ByteBuffer;
-import java.nio.charset.StandardCharsets;
 import java.util.Arrays;
 
 /** Each promise of the document with answers worked out by hand: ordinary calls, edges, wrong inputs. */
@@ -16,8 +14,8 @@ public final class PromisesTest {
       + "note 0 to 2 0;note 5 to 2 1;note 3 to 2 1;note 2 to 1 5;"
       + "fact 6;dead 1;dead 3;";
   private static final int RING_LINES = 15;
-  private static final String BARE = "town opens 1 odds 0;";
-  private static final String BOOK = BARE + "book pages 1 by 0;";
+  private static final String BARE = Towns.BARE;
+  private static final String BOOK = Towns.BOOK;
 
   private static void due(int promise, String call, int got, int want) {
     if (got == want) return;
@@ -25,31 +23,13 @@ public final class PromisesTest {
     System.out.println("promise " + promise + ": " + call + " answered " + got + ", due is " + want);
   }
 
-  private static int feedAll(FootNotes x, String text) {
-    byte[] bytes = text.getBytes(StandardCharsets.ISO_8859_1);
-    ByteBuffer b = ByteBuffer.wrap(Arrays.copyOf(bytes, (bytes.length + 19) / 20 * 20));
-    int last = 0;
-    while (b.hasRemaining()) last = x.feed(b.getInt(), b.getInt(), b.getInt(), b.getInt(), b.getInt());
-    return last;
-  }
+  private static FootNotes of(String text) { return Towns.of(text); }
 
-  private static int tell(FootNotes x, String text) {
-    x.end(0);
-    feedAll(x, text);
-    x.end(text.length());
-    return x.town();
-  }
+  private static int tell(FootNotes x, String text) { return Towns.tell(x, text); }
 
-  private static FootNotes of(String text) {
-    FootNotes x = new FootNotes();
-    if (tell(x, text) <= 0) due(4, "town() of " + text, 0, 1);
-    return x;
-  }
+  private static int feedAll(FootNotes x, String text) { return Towns.feedAll(x, text); }
 
-  private static void row(FootNotes x, int slot, int width, int... numbers) {
-    due(63, "row", x.row(slot, width, numbers.length), 0);
-    for (int i = 0; i < numbers.length; i++) due(64, "write", x.write(slot, i, numbers[i]), 0);
-  }
+  private static void row(FootNotes x, int slot, int width, long... numbers) { Towns.row(x, slot, width, numbers); }
 
   public static void main(String[] args) {
     newObject();

@@ -1,4 +1,3 @@
-import java.lang.reflect.Method;
 import java.nio.charset.StandardCharsets;
 import java.util.ArrayList;
 import java.util.Arrays;
@@ -26,26 +25,27 @@ public final class RandomRunsTest {
   };
 
   private final Random random;
-  private final FootNotes ours = new FootNotes();
-  private final NaiveTown naive = new NaiveTown();
-  private final List<String> log = new ArrayList<>();
-  private boolean failed = false;
+  private final Pair pair = new Pair();
 
   private RandomRunsTest(long seed) { random = new Random(seed); }
 
-  public static void main(String[] args) throws Exception {
-    for (int run = 0; run < RUNS && wrong < 5; run++) new RandomRunsTest(run).run();
+  public static void main(String[] args) {
+    for (int run = 0; run < RUNS && wrong < 5; run++) {
+      RandomRunsTest test = new RandomRunsTest(run);
+      test.run();
+      if (test.pair.differs()) wrong++;
+    }
     System.out.println(wrong == 0 ? "RandomRunsTest: all answers agree" : "RandomRunsTest: " + wrong + " runs differ");
     if (wrong != 0) System.exit(1);
   }
 
-  private void run() throws Exception {
-    if (random.nextInt(20) > 0) tell(townText());
+  private void run() {
+    if (random.nextInt(20) > 0) pair.tell(townText());
     int busy = random.nextInt(5) == 0 ? 200 : 40;
-    for (int i = 0; i < CALLS && !failed; i++) {
+    for (int i = 0; i < CALLS && !pair.differs(); i++) {
       int dice = random.nextInt(300);
-      if (dice == 0) tell(townText());
-      else if (dice == 1) tell(spoiled(townText()));
+      if (dice == 0) pair.tell(townText());
+      else if (dice == 1) pair.tell(spoiled(townText()));
       else if (dice == 2) ask(random.nextInt(3) == 0 ? "anew" : "end tape");
       else if (dice == 3 && random.nextInt(6) == 0) ask("town");
       else if (dice < 12) fillRow();
@@ -54,30 +54,16 @@ public final class RandomRunsTest {
     }
   }
 
-  private void act() throws Exception {
+  private void act() {
     String[] acts = {"edition book leaf", "edition book few", "tear book leaf", "tear book few", "misprint note leaf"};
     ask(random.nextInt(8) == 0 ? "undo" : acts[random.nextInt(acts.length)]);
   }
 
-  private void fillRow() throws Exception {
+  private void fillRow() {
     int slot = random.nextInt(4), width = random.nextInt(4), n = random.nextInt(6);
     if (random.nextInt(8) == 0) n = random.nextInt(10);
-    call("row", slot, width, n);
-    for (int i = 0; i < n; i++) call("write", slot, i, (long) random.nextInt(Math.max(1, naive.count(1))));
-  }
-
-  private void tell(byte[] text) throws Exception {
-    call("end", 0);
-    for (int at = 0; at < text.length; at += 20) {
-      byte[] b = Arrays.copyOf(Arrays.copyOfRange(text, at, at + 20), 20);
-      Object[] numbers = new Object[5];
-      for (int k = 0; k < 5; k++) numbers[k] = java.nio.ByteBuffer.wrap(b, 4 * k, 4).getInt();
-      call("feed", numbers);
-    }
-    call("end", text.length);
-    call("town");
-    call("fault", 0);
-    call("fault", 1);
+    pair.call("row", slot, width, n);
+    for (int i = 0; i < n; i++) pair.call("write", slot, i, (long) random.nextInt(Math.max(1, pair.number(1))));
   }
 
   private byte[] spoiled(byte[] text) {
@@ -126,11 +112,11 @@ public final class RandomRunsTest {
     return s.toString().getBytes(StandardCharsets.ISO_8859_1);
   }
 
-  private void ask(String shape) throws Exception {
+  private void ask(String shape) {
     String[] parts = shape.split(" ");
     Object[] args = new Object[parts.length - 1];
     for (int i = 1; i < parts.length; i++) args[i - 1] = drawn(parts[i]);
-    call(parts[0], args);
+    pair.call(parts[0], args);
   }
 
   private Object drawn(String what) {
@@ -138,12 +124,12 @@ public final class RandomRunsTest {
       int[] odd = {-1, Integer.MIN_VALUE, Integer.MAX_VALUE, 61, 2000000001, 12, 24, 4096};
       return odd[random.nextInt(odd.length)];
     }
-    int pages = naive.count(1);
+    int pages = pair.number(1);
     switch (what) {
       case "page": return random.nextInt(pages + 1 - (pages > 1 && random.nextInt(8) > 0 ? 1 : 0));
-      case "book": return random.nextInt(naive.count(0) + 1);
+      case "book": return random.nextInt(pair.number(0) + 1);
       case "leaf": return random.nextInt(random.nextInt(5) == 0 ? 31 : 9);
-      case "note": return random.nextInt(naive.count(2) + 1);
+      case "note": return random.nextInt(pair.number(2) + 1);
       case "what": return random.nextInt(5);
       case "few": return random.nextInt(7) - 1;
       case "set": return random.nextInt((1 << pages) + 1);
@@ -156,22 +142,5 @@ public final class RandomRunsTest {
       case "tape": return random.nextInt(30);
       default: return random.nextInt(3) == 0 ? random.nextLong() : random.nextInt(12) + 256L * random.nextInt(3);
     }
-  }
-
-  private void call(String name, Object... args) throws Exception {
-    if (failed) return;
-    log.add(name + Arrays.toString(args));
-    int got = answer(ours, name, args), want = answer(naive, name, args);
-    if (got == want) return;
-    failed = true;
-    wrong++;
-    for (String line : log) System.out.println("  " + line);
-    System.out.println("the last answered " + got + ", NaiveTown says " + want);
-  }
-
-  private static int answer(Object who, String name, Object[] args) throws Exception {
-    for (Method m : who.getClass().getMethods())
-      if (m.getName().equals(name) && m.getDeclaringClass() == who.getClass()) return (Integer) m.invoke(who, args);
-    throw new NoSuchMethodException(name);
   }
 }
