@@ -1597,7 +1597,7 @@ public final class FootNotes {
         }
 
         private void spread(int[] dist, Shelf shelf, Web web) {
-            for (int i = 0; i < queued; i++) {
+            for (int i = 0; i < queued && i < queue.length; i++) {
                 int at = queue[i];
                 int behind = dist[at] + 1;
                 int book = at / LEAF_LIMIT;
