@@ -279,6 +279,7 @@ final class WebBoundaries {
     s.due("cut(0), by its fact", Towns.ofPages(2, "note 0 to 0 1;fact 1;").cut(0), 1);
     s.due("cut(0) without a way", rings.cut(0), 0);
     s.due("cut(0) of a page alone", single.cut(0), 0);
+    s.due("cut(0) without a way, notes and a fact elsewhere", Towns.ofPages(3, "note 0 to 0 1;fact 2;").cut(0), 0);
     StringBuilder all = new StringBuilder(Towns.BARE + "book pages 8 by 0;book pages 4 by 0;");
     for (int p = 1; p < 12; p++) all.append("note 0 to ").append(p / 8).append(" ").append(p % 8).append(";fact ").append(p).append(";");
     FootNotes x = Towns.of(all.toString());
@@ -302,6 +303,7 @@ final class WebBoundaries {
     each("torn", chain::torn, 2, 4, 8);
     each("torn back", chainBack::torn, -1, 1, 1, 1);
     s.due("torn(0), none is needed", rings.torn(0), 0);
+    s.due("torn(0), none is needed, notes and a fact elsewhere", Towns.ofPages(3, "note 0 to 0 1;fact 2;").torn(0), 0);
     FootNotes x = Towns.ofPages(4, "note 3 to 0 0;note 3 to 0 1;note 0 to 0 2;note 1 to 0 2;fact 2;");
     s.due("torn(3), one though two would be less", x.torn(3), 4);
     FootNotes y = Towns.ofPages(5, "note 4 to 0 0;note 4 to 0 1;note 0 to 0 2;note 1 to 0 3;fact 2;fact 3;");
