@@ -2,6 +2,10 @@ import java.nio.file.Files;
 import java.nio.file.Path;
 import java.util.ArrayList;
 import java.util.List;
+import java.util.Map;
+import java.util.Set;
+import java.util.TreeMap;
+import java.util.TreeSet;
 import java.util.regex.Matcher;
 import java.util.regex.Pattern;
 
@@ -18,6 +22,7 @@ public final class LanguageTest {
     banned(code);
     library(code);
     methods(source);
+    calls(code);
     classes(code);
     for (String w : wrong) System.out.println(w);
     System.out.println("LanguageTest: " + (wrong.isEmpty() ? "the rules are kept" : wrong.size() + " faults"));
@@ -56,6 +61,28 @@ public final class LanguageTest {
       if (end - i > 60) wrong.add("rule 11: too long: " + lines[i].trim());
       if (m.group(2).split(",").length > 7) wrong.add("rule 11: too many parameters: " + lines[i].trim());
     }
+  }
+
+  /** Rules 8, 11: no method comes back to itself, and calls go at most eight deep (methods of one name are taken as one). */
+  private static void calls(String code) {
+    Map<String, Set<String>> called = new TreeMap<>();
+    Matcher heads = Pattern.compile("(?m)^( {4}| {8})(?:public|private) (?:static )?(?!.*class )\\w[\\w\\[\\]]* ?(\\w*)\\(.*\\) \\{$").matcher(code);
+    while (heads.find()) {
+      int end = code.indexOf("\n" + heads.group(1) + "}", heads.end());
+      Matcher calls = Pattern.compile("(?<!new )\\b(\\w+)\\(").matcher(code.substring(heads.end(), end));
+      Set<String> names = called.computeIfAbsent(heads.group(2), n -> new TreeSet<>());
+      while (calls.find()) names.add(calls.group(1));
+    }
+    if (called.size() < 64) wrong.add("only " + called.size() + " methods were found");
+    for (String name : called.keySet())
+      if (depth(called, name, 0) > 8) wrong.add("rule 8 or 11: a call of " + name + " goes more than eight deep");
+  }
+
+  private static int depth(Map<String, Set<String>> called, String name, int above) {
+    if (above > 8 || !called.containsKey(name)) return above;
+    int most = above + 1;
+    for (String next : called.get(name)) most = Math.max(most, depth(called, next, above + 1));
+    return most;
   }
 
   /** Rules 2, 11, 12: at most twelve classes of at most twenty fields; objects are made in initialisers alone. */
